@@ -329,14 +329,10 @@ public final class UnitVoices {
         }
         h = 31L * h + tree.leaves;
         h = 31L * h + tree.height;
-        return withChain(h);
-    }
-
-    private long withChain(long start) {
         if (!findChain(NONE)) {
-            return 31L * start + NONE;
+            return 31L * h + NONE;
         }
-        long h = 31L * start + chains.leastPrice();
+        h = 31L * h + chains.leastPrice();
         for (int k = 0; k < row.count; k++) {
             h = 31L * h + chains.path[k];
         }
@@ -585,14 +581,14 @@ public final class UnitVoices {
         /** Whether the leaf is the node or lies somewhere below it. */
         boolean liesUnder(int leaf, int node) {
             int climbed = leaf;
-            for (int up = 0; up < MOST_QUESTIONS && climbed != node && isNode(climbed); up++) {
-                climbed = above[climbed];
+            for (int up = 0; up < MOST_QUESTIONS && climbed != node && climbed != NONE; up++) {
+                climbed = nodeAbove(climbed);
             }
             return climbed == node;
         }
 
         int nodeAbove(int node) {
-            return isNode(node) ? above[node] : NONE;
+            return node >= 0 && node < nodes ? above[node] : NONE;
         }
 
         int numberOf(int leaf) {
@@ -648,12 +644,13 @@ public final class UnitVoices {
             if (!readWord("row")) {
                 return;
             }
-            for (int k = 0; k <= MOST_TARGETS && fault == NONE; k++) {
+            // behind the last target that may be, all but the end is a fault of readEnd
+            for (int k = 0; k < MOST_TARGETS && fault == NONE; k++) {
                 int c = look();
                 if (c == ';' && k > 0) {
                     return;
                 }
-                if (k == MOST_TARGETS || !within(c, 'a', 'f')) {
+                if (!within(c, 'a', 'f')) {
                     fail();
                 } else {
                     readTarget(c - 'a');
@@ -914,31 +911,21 @@ public final class UnitVoices {
         }
 
         int ofFit(int kind, int u, int k) {
+            int pitchGap = Math.abs(units.pitch[u] - row.pitch[k]);
+            int plain = pitchGap + Math.abs(units.length[u] - row.length[k]);
             switch (kind) {
-                case BESIDE: return besideFit(u, k);
-                case HIGH: return highFit(u, k);
-                case STRICT: return 2 * besideFit(u, k);
-                case LAX: return highFit(u, k) / 2;
-                default: return plainFit(u, k);
+                case BESIDE: return plain + besidePart(u, k);
+                case HIGH: return plain + pitchGap;
+                case STRICT: return 2 * (plain + besidePart(u, k));
+                case LAX: return (plain + pitchGap) / 2;
+                default: return plain;
             }
         }
 
-        private int plainFit(int u, int k) {
-            return pitchGap(u, k) + Math.abs(units.length[u] - row.length[k]);
-        }
-
-        private int besideFit(int u, int k) {
+        private int besidePart(int u, int k) {
             int leftPart = units.left[u] == row.leftOf(k) ? 0 : 2;
             int rightPart = units.right[u] == row.rightOf(k) ? 0 : 2;
-            return plainFit(u, k) + leftPart + rightPart;
-        }
-
-        private int highFit(int u, int k) {
-            return plainFit(u, k) + pitchGap(u, k);
-        }
-
-        private int pitchGap(int u, int k) {
-            return Math.abs(units.pitch[u] - row.pitch[k]);
+            return leftPart + rightPart;
         }
 
         int ofJoint(int u, int v) {
